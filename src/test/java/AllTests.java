@@ -14,6 +14,7 @@ public final class AllTests {
         ScriptTest.run();
         UndoTest.run();
         FaceTest.run();
+        LanguageTest.run();
         ReferenceTest.run();
         System.exit(Check.finish());
     }

@@ -52,11 +52,28 @@ final class ChangesTest {
         room.remove(3);
         Check.same("2 a place is free again", room.addCustomer(9), 11);
         Check.same("2 no number is used twice", room.ticket(11), 13);
+        newAfterOthersLeft();
         WaitingRoomSimulation served = Rooms.call(Rooms.crowd(12), 1);
         served.openWindow(0, 9, 9);
         served.advance(1);
         Rooms.refuses("2 customers at windows count", IllegalStateException.class, served,
                 () -> served.addCustomer(7));
+    }
+
+    private static void newAfterOthersLeft() {
+        WaitingRoomSimulation room = Rooms.with(1, 9);
+        room.advance(2);
+        room.sit(0);
+        room.sit(1);
+        room.callNext();
+        room.callNext();
+        room.advance(3);
+        room.remove(1);
+        room.remove(0);
+        room.addCustomer(5);
+        room.addCustomer(6);
+        Check.same("2 nothing is left of those before", Rooms.state(room),
+                "3 4 | 0:x 1:x 2:x | 3:5,0,0,0 4:6,0,0,0 | 0 0 0 | | 5 4 0 0 2 true");
     }
 
     private static void openWindow() {
@@ -222,10 +239,28 @@ final class ChangesTest {
         Check.same("9 not served", room.servedTotal(), 0);
         Check.same("9 not walked out", room.walkedOutTotal(), 0);
         Check.same("9 consistent", room.isConsistent(), true);
+        everyWindowFollows();
         room.remove(0);
         room.remove(0);
         Check.same("9 the last one", room.remove(0), 0);
         Rooms.refuses("9 nobody is left", IndexOutOfBoundsException.class, room, () -> room.remove(0));
+    }
+
+    private static void everyWindowFollows() {
+        WaitingRoomSimulation room = Rooms.call(Rooms.crowd(6), 4);
+        room.swap(0, 3);
+        for (int i = 0; i < 3; i++) {
+            room.openWindow(i, 9, 9);
+        }
+        room.advance(1);
+        Check.same("9 before", Rooms.windows(room), "0:4/9 1:2/9 2:3/9");
+        room.remove(0);
+        Check.same("9 everybody stays at a window", Rooms.windows(room), "0:4/9 1:2/9 2:3/9");
+        int[] due = {2, 0, 1};
+        for (int i = 0; i < 3; i++) {
+            Check.same("9 customer at window " + i, room.customerAtWindow(i), due[i]);
+        }
+        Check.same("9 window of the last one", room.windowOfCustomer(2), 0);
     }
 
     private static void advance() {

@@ -109,6 +109,15 @@ final class QueueTest {
         sameInversions("neighbours", room, 1);
         room.swap(3, 4);
         sameInversions("back again", room, 0);
+        room.swap(0, 2);
+        room.swap(1, 3);
+        sameInversions("3 4 1 2", room, 4);
+        room.swap(0, 3);
+        sameInversions("3 2 1 4 and so on", room, 3);
+        room.swap(0, 3);
+        room.swap(1, 3);
+        room.swap(0, 2);
+        sameInversions("in order again", room, 0);
         for (int i = 0; i < 6; i++) {
             room.swap(i, 11 - i);
         }
