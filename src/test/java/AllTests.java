@@ -15,6 +15,13 @@ public final class AllTests {
         UndoTest.run();
         FaceTest.run();
         LanguageTest.run();
+        TermsEdgesTest.run();
+        ChangesEdgesTest.run();
+        AnswersEdgesTest.run();
+        StatisticsEdgesTest.run();
+        ScriptEdgesTest.run();
+        UndoEdgesTest.run();
+        ScenesTest.run();
         ReferenceTest.run();
         System.exit(Check.finish());
     }

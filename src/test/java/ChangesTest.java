@@ -35,8 +35,7 @@ final class ChangesTest {
         WaitingRoomSimulation room = new WaitingRoomSimulation();
         int[] refused = {0, 31, -1, Integer.MIN_VALUE, Integer.MAX_VALUE};
         for (int patience : refused) {
-            Rooms.refuses("2 patience " + patience, IllegalArgumentException.class, room,
-                    () -> room.addCustomer(patience));
+            Check.refuses("2 patience " + patience, IllegalArgumentException.class, () -> room.addCustomer(patience));
         }
         Check.same("2 first", room.addCustomer(1), 0);
         Check.same("2 second", room.addCustomer(30), 1);
@@ -47,8 +46,8 @@ final class ChangesTest {
         for (int i = 2; i < 12; i++) {
             Check.same("2 customer " + i, room.addCustomer(7), i);
         }
-        Rooms.refuses("2 the hall is full", IllegalStateException.class, room, () -> room.addCustomer(7));
-        Rooms.refuses("2 patience comes first", IllegalArgumentException.class, room, () -> room.addCustomer(0));
+        Check.refuses("2 the hall is full", IllegalStateException.class, () -> room.addCustomer(7));
+        Check.refuses("2 patience comes first", IllegalArgumentException.class, () -> room.addCustomer(0));
         room.remove(3);
         Check.same("2 a place is free again", room.addCustomer(9), 11);
         Check.same("2 no number is used twice", room.ticket(11), 13);
@@ -56,8 +55,7 @@ final class ChangesTest {
         WaitingRoomSimulation served = Rooms.call(Rooms.crowd(12), 1);
         served.openWindow(0, 9, 9);
         served.advance(1);
-        Rooms.refuses("2 customers at windows count", IllegalStateException.class, served,
-                () -> served.addCustomer(7));
+        Check.refuses("2 customers at windows count", IllegalStateException.class, () -> served.addCustomer(7));
     }
 
     private static void newAfterOthersLeft() {
@@ -80,24 +78,22 @@ final class ChangesTest {
         WaitingRoomSimulation room = new WaitingRoomSimulation();
         int[] windows = {-1, 3, Integer.MIN_VALUE, Integer.MAX_VALUE};
         for (int window : windows) {
-            Rooms.refuses("3 window " + window, IndexOutOfBoundsException.class, room,
-                    () -> room.openWindow(window, 1, 1));
+            Check.refuses("3 window " + window, IndexOutOfBoundsException.class, () -> room.openWindow(window, 1, 1));
         }
         int[][] refused = {{0, 1}, {100, 1}, {1, 0}, {1, 10}, {-1, 1}, {1, -1},
             {Integer.MAX_VALUE, 1}, {1, Integer.MIN_VALUE}};
         for (int[] wrong : refused) {
-            Rooms.refuses("3 " + wrong[0] + " minutes, pace " + wrong[1], IllegalArgumentException.class, room,
+            Check.refuses("3 " + wrong[0] + " minutes, pace " + wrong[1], IllegalArgumentException.class,
                     () -> room.openWindow(0, wrong[0], wrong[1]));
         }
-        Rooms.refuses("3 the window comes first", IndexOutOfBoundsException.class, room,
-                () -> room.openWindow(3, 0, 0));
+        Check.refuses("3 the window comes first", IndexOutOfBoundsException.class, () -> room.openWindow(3, 0, 0));
         Check.same("3 one open", room.openWindow(2, 1, 9), 1);
         Check.same("3 two open", room.openWindow(0, 99, 1), 2);
         Check.same("3 three open", room.openWindow(1, 50, 5), 3);
         Check.same("3 opening times", Rooms.state(room),
                 " | 0:- 1:- 2:- | | 99/1 50/5 1/9 | | 0 0 0 0 0 true");
-        Rooms.refuses("3 open already", IllegalStateException.class, room, () -> room.openWindow(0, 5, 5));
-        Rooms.refuses("3 arguments come before the state", IllegalArgumentException.class, room,
+        Check.refuses("3 open already", IllegalStateException.class, () -> room.openWindow(0, 5, 5));
+        Check.refuses("3 arguments come before the state", IllegalArgumentException.class,
                 () -> room.openWindow(0, 100, 5));
         room.closeWindow(0);
         Check.same("3 opened again", room.openWindow(0, 3, 4), 3);
@@ -109,9 +105,9 @@ final class ChangesTest {
 
     private static void closeWindow() {
         WaitingRoomSimulation room = Rooms.call(Rooms.crowd(4), 2);
-        Rooms.refuses("4 window -1", IndexOutOfBoundsException.class, room, () -> room.closeWindow(-1));
-        Rooms.refuses("4 window 3", IndexOutOfBoundsException.class, room, () -> room.closeWindow(3));
-        Rooms.refuses("4 closed", IllegalStateException.class, room, () -> room.closeWindow(0));
+        Check.refuses("4 window -1", IndexOutOfBoundsException.class, () -> room.closeWindow(-1));
+        Check.refuses("4 window 3", IndexOutOfBoundsException.class, () -> room.closeWindow(3));
+        Check.refuses("4 closed", IllegalStateException.class, () -> room.closeWindow(0));
         room.openWindow(0, 9, 9);
         room.openWindow(1, 9, 9);
         room.openWindow(2, 9, 9);
@@ -124,36 +120,36 @@ final class ChangesTest {
         Check.same("4 the later one is in front", Rooms.queue(room), "2! 1! 3 4");
         Check.same("4 windows", Rooms.windows(room), "0:x 1:x 2:x");
         Check.same("4 the customer stands", room.isSitting(0), false);
-        Rooms.refuses("4 closed again", IllegalStateException.class, room, () -> room.closeWindow(0));
+        Check.refuses("4 closed again", IllegalStateException.class, () -> room.closeWindow(0));
     }
 
     private static void callNext() {
         WaitingRoomSimulation empty = new WaitingRoomSimulation();
-        Rooms.refuses("5 empty hall", NoSuchElementException.class, empty, empty::callNext);
+        Check.refuses("5 empty hall", NoSuchElementException.class, empty::callNext);
         WaitingRoomSimulation room = Rooms.crowd(3);
         room.swap(0, 2);
         Check.same("5 the lowest ticket, not the front", room.callNext(), 1);
         Check.same("5 only that one", Rooms.queue(room), "3 2 1!");
         room.remove(1);
         Check.same("5 the next in the hall", room.callNext(), 3);
-        Rooms.refuses("5 all are called", NoSuchElementException.class, room, room::callNext);
+        Check.refuses("5 all are called", NoSuchElementException.class, room::callNext);
         room.addCustomer(5);
         Check.same("5 a new ticket", room.callNext(), 4);
         room.openWindow(0, 9, 9);
         room.advance(1);
-        Rooms.refuses("5 customers at windows are called", NoSuchElementException.class, room, room::callNext);
+        Check.refuses("5 customers at windows are called", NoSuchElementException.class, room::callNext);
     }
 
     private static void swap() {
         WaitingRoomSimulation room = Rooms.with(5, 2, 1, 9);
-        Rooms.refuses("6 first -1", IndexOutOfBoundsException.class, room, () -> room.swap(-1, 0));
-        Rooms.refuses("6 first 4", IndexOutOfBoundsException.class, room, () -> room.swap(4, 0));
-        Rooms.refuses("6 second -1", IndexOutOfBoundsException.class, room, () -> room.swap(0, -1));
-        Rooms.refuses("6 second 4", IndexOutOfBoundsException.class, room, () -> room.swap(0, 4));
-        Rooms.refuses("6 no such customer comes first", IndexOutOfBoundsException.class, room, () -> room.swap(4, 4));
-        Rooms.refuses("6 equal", IllegalArgumentException.class, room, () -> room.swap(2, 2));
-        Rooms.refuses("6 patience 1", UnsupportedOperationException.class, room, () -> room.swap(2, 3));
-        Rooms.refuses("6 patience 1, turned round", UnsupportedOperationException.class, room, () -> room.swap(3, 2));
+        Check.refuses("6 first -1", IndexOutOfBoundsException.class, () -> room.swap(-1, 0));
+        Check.refuses("6 first 4", IndexOutOfBoundsException.class, () -> room.swap(4, 0));
+        Check.refuses("6 second -1", IndexOutOfBoundsException.class, () -> room.swap(0, -1));
+        Check.refuses("6 second 4", IndexOutOfBoundsException.class, () -> room.swap(0, 4));
+        Check.refuses("6 no such customer comes first", IndexOutOfBoundsException.class, () -> room.swap(4, 4));
+        Check.refuses("6 equal", IllegalArgumentException.class, () -> room.swap(2, 2));
+        Check.refuses("6 patience 1", UnsupportedOperationException.class, () -> room.swap(2, 3));
+        Check.refuses("6 patience 1, turned round", UnsupportedOperationException.class, () -> room.swap(3, 2));
         room.sit(1);
         Check.same("6 distance", room.swap(0, 3), 3);
         Check.same("6 who moves back pays", room.patience(0), 3);
@@ -163,28 +159,28 @@ final class ChangesTest {
         Check.same("6 patience 0 is left", room.patience(1), 0);
         Check.same("6 who sits keeps sitting", Rooms.queue(room), "4 3 2_ 1");
         Check.same("6 no sigh", room.sighTotal(), 0);
-        Rooms.refuses("6 patience 0", UnsupportedOperationException.class, room, () -> room.swap(1, 0));
+        Check.refuses("6 patience 0", UnsupportedOperationException.class, () -> room.swap(1, 0));
         Rooms.call(room, 2);
         room.openWindow(0, 9, 9);
         room.openWindow(1, 9, 9);
         room.advance(1);
-        Rooms.refuses("6 one at a window", IllegalStateException.class, room, () -> room.swap(0, 3));
-        Rooms.refuses("6 the other at a window", IllegalStateException.class, room, () -> room.swap(3, 0));
-        Rooms.refuses("6 both at windows", IllegalStateException.class, room, () -> room.swap(0, 1));
-        Rooms.refuses("6 equal and at a window", IllegalArgumentException.class, room, () -> room.swap(0, 0));
-        Rooms.refuses("6 impatient and at a window", IllegalStateException.class, room, () -> room.swap(2, 1));
+        Check.refuses("6 one at a window", IllegalStateException.class, () -> room.swap(0, 3));
+        Check.refuses("6 the other at a window", IllegalStateException.class, () -> room.swap(3, 0));
+        Check.refuses("6 both at windows", IllegalStateException.class, () -> room.swap(0, 1));
+        Check.refuses("6 equal and at a window", IllegalArgumentException.class, () -> room.swap(0, 0));
+        Check.refuses("6 impatient and at a window", IllegalStateException.class, () -> room.swap(2, 1));
     }
 
     private static void sit() {
         WaitingRoomSimulation room = Rooms.crowd(7);
-        Rooms.refuses("7 customer -1", IndexOutOfBoundsException.class, room, () -> room.sit(-1));
-        Rooms.refuses("7 customer 7", IndexOutOfBoundsException.class, room, () -> room.sit(7));
+        Check.refuses("7 customer -1", IndexOutOfBoundsException.class, () -> room.sit(-1));
+        Check.refuses("7 customer 7", IndexOutOfBoundsException.class, () -> room.sit(7));
         for (int i = 0; i < 4; i++) {
             Check.same("7 chair " + i, room.sit(i), i + 1);
         }
         Check.same("7 who sits", Rooms.queue(room), "1_ 2_ 3_ 4_ 5 6 7");
-        Rooms.refuses("7 chairs are taken", UnsupportedOperationException.class, room, () -> room.sit(4));
-        Rooms.refuses("7 sits, and chairs are taken", IllegalStateException.class, room, () -> room.sit(0));
+        Check.refuses("7 chairs are taken", UnsupportedOperationException.class, () -> room.sit(4));
+        Check.refuses("7 sits, and chairs are taken", IllegalStateException.class, () -> room.sit(0));
         room.standUp(2);
         Check.same("7 a chair is free", room.sit(6), 4);
         room.remove(6);
@@ -193,7 +189,7 @@ final class ChangesTest {
         Rooms.call(room, 1);
         room.openWindow(0, 9, 9);
         room.advance(1);
-        Rooms.refuses("7 at a window", IllegalStateException.class, room, () -> room.sit(0));
+        Check.refuses("7 at a window", IllegalStateException.class, () -> room.sit(0));
         Check.same("7 the chair of a customer who went to the window", room.sit(3), 3);
         WaitingRoomSimulation aching = Rooms.crowd(1);
         aching.sit(0);
@@ -205,9 +201,9 @@ final class ChangesTest {
 
     private static void standUp() {
         WaitingRoomSimulation room = Rooms.crowd(3);
-        Rooms.refuses("8 customer -1", IndexOutOfBoundsException.class, room, () -> room.standUp(-1));
-        Rooms.refuses("8 customer 3", IndexOutOfBoundsException.class, room, () -> room.standUp(3));
-        Rooms.refuses("8 stands", IllegalStateException.class, room, () -> room.standUp(0));
+        Check.refuses("8 customer -1", IndexOutOfBoundsException.class, () -> room.standUp(-1));
+        Check.refuses("8 customer 3", IndexOutOfBoundsException.class, () -> room.standUp(3));
+        Check.refuses("8 stands", IllegalStateException.class, () -> room.standUp(0));
         room.sit(0);
         room.sit(2);
         room.advance(2);
@@ -218,7 +214,7 @@ final class ChangesTest {
         Rooms.call(room, 1);
         room.openWindow(0, 9, 9);
         room.advance(1);
-        Rooms.refuses("8 at a window", IllegalStateException.class, room, () -> room.standUp(0));
+        Check.refuses("8 at a window", IllegalStateException.class, () -> room.standUp(0));
     }
 
     private static void remove() {
@@ -226,8 +222,8 @@ final class ChangesTest {
         room.openWindow(1, 9, 9);
         room.openWindow(2, 9, 9);
         room.advance(1);
-        Rooms.refuses("9 customer -1", IndexOutOfBoundsException.class, room, () -> room.remove(-1));
-        Rooms.refuses("9 customer 5", IndexOutOfBoundsException.class, room, () -> room.remove(5));
+        Check.refuses("9 customer -1", IndexOutOfBoundsException.class, () -> room.remove(-1));
+        Check.refuses("9 customer 5", IndexOutOfBoundsException.class, () -> room.remove(5));
         Check.same("9 in the queue", room.remove(3), 4);
         Check.same("9 queue", Rooms.queue(room), "3 5");
         Check.same("9 later customers move up", room.ticket(3), 5);
@@ -243,7 +239,7 @@ final class ChangesTest {
         room.remove(0);
         room.remove(0);
         Check.same("9 the last one", room.remove(0), 0);
-        Rooms.refuses("9 nobody is left", IndexOutOfBoundsException.class, room, () -> room.remove(0));
+        Check.refuses("9 nobody is left", IndexOutOfBoundsException.class, () -> room.remove(0));
     }
 
     private static void everyWindowFollows() {
@@ -267,7 +263,7 @@ final class ChangesTest {
         WaitingRoomSimulation room = Rooms.call(Rooms.crowd(12), 12);
         int[] refused = {0, 21, -1, Integer.MIN_VALUE, Integer.MAX_VALUE};
         for (int minutes : refused) {
-            Rooms.refuses("10 minutes " + minutes, IllegalArgumentException.class, room, () -> room.advance(minutes));
+            Check.refuses("10 minutes " + minutes, IllegalArgumentException.class, () -> room.advance(minutes));
         }
         Check.same("10 nothing open", room.advance(1), 0);
         room.openWindow(0, 99, 1);

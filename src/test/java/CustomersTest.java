@@ -53,10 +53,9 @@ final class CustomersTest {
         for (int i = 1; i < 4; i++) {
             int customer = i;
             Check.same("19 position " + i, room.position(i), i - 1);
-            Rooms.refuses("20 in the queue " + i, NoSuchElementException.class, room,
-                    () -> room.windowOfCustomer(customer));
+            Check.refuses("20 in the queue " + i, NoSuchElementException.class, () -> room.windowOfCustomer(customer));
         }
-        Rooms.refuses("19 at a window", NoSuchElementException.class, room, () -> room.position(0));
+        Check.refuses("19 at a window", NoSuchElementException.class, () -> room.position(0));
         Check.same("20 window", room.windowOfCustomer(0), 2);
         room.swap(2, 3);
         Check.same("19 position after a swap", room.position(2), 2);
@@ -72,15 +71,15 @@ final class CustomersTest {
         WaitingRoomSimulation room = mixed();
         Class<IndexOutOfBoundsException> due = IndexOutOfBoundsException.class;
         for (int customer : NO_CUSTOMERS) {
-            Rooms.refuses("12 customer " + customer, due, room, () -> room.ticket(customer));
-            Rooms.refuses("13 customer " + customer, due, room, () -> room.patience(customer));
-            Rooms.refuses("14 customer " + customer, due, room, () -> room.sighs(customer));
-            Rooms.refuses("15 customer " + customer, due, room, () -> room.ache(customer));
-            Rooms.refuses("16 customer " + customer, due, room, () -> room.waitingTime(customer));
-            Rooms.refuses("17 customer " + customer, due, room, () -> room.isCalled(customer));
-            Rooms.refuses("18 customer " + customer, due, room, () -> room.isSitting(customer));
-            Rooms.refuses("19 customer " + customer, due, room, () -> room.position(customer));
-            Rooms.refuses("20 customer " + customer, due, room, () -> room.windowOfCustomer(customer));
+            Check.refuses("12 customer " + customer, due, () -> room.ticket(customer));
+            Check.refuses("13 customer " + customer, due, () -> room.patience(customer));
+            Check.refuses("14 customer " + customer, due, () -> room.sighs(customer));
+            Check.refuses("15 customer " + customer, due, () -> room.ache(customer));
+            Check.refuses("16 customer " + customer, due, () -> room.waitingTime(customer));
+            Check.refuses("17 customer " + customer, due, () -> room.isCalled(customer));
+            Check.refuses("18 customer " + customer, due, () -> room.isSitting(customer));
+            Check.refuses("19 customer " + customer, due, () -> room.position(customer));
+            Check.refuses("20 customer " + customer, due, () -> room.windowOfCustomer(customer));
         }
     }
 

@@ -25,14 +25,14 @@ final class QueueTest {
         }
         int[] refused = {-1, 4, Integer.MIN_VALUE, Integer.MAX_VALUE};
         for (int position : refused) {
-            Rooms.refuses("21 position " + position, IndexOutOfBoundsException.class, room,
+            Check.refuses("21 position " + position, IndexOutOfBoundsException.class,
                     () -> room.customerAtPosition(position));
         }
         room.callNext();
         room.openWindow(0, 9, 9);
         room.advance(1);
         Check.same("22 without those at windows", room.queueLength(), 3);
-        Rooms.refuses("21 the queue is shorter than the hall", IndexOutOfBoundsException.class, room,
+        Check.refuses("21 the queue is shorter than the hall", IndexOutOfBoundsException.class,
                 () -> room.customerAtPosition(3));
         Check.same("22 nobody", new WaitingRoomSimulation().queueLength(), 0);
     }
@@ -43,11 +43,11 @@ final class QueueTest {
         Check.same("23 open", room.openingTimeLeft(1), 5);
         Check.same("23 closed", room.openingTimeLeft(0), 0);
         Check.same("24 pace", room.pace(1), 3);
-        Rooms.refuses("24 closed", IllegalStateException.class, room, () -> room.pace(0));
-        Rooms.refuses("25 empty", NoSuchElementException.class, room, () -> room.customerAtWindow(1));
-        Rooms.refuses("25 closed", NoSuchElementException.class, room, () -> room.customerAtWindow(0));
-        Rooms.refuses("26 empty", NoSuchElementException.class, room, () -> room.serviceTimeLeft(1));
-        Rooms.refuses("26 closed", NoSuchElementException.class, room, () -> room.serviceTimeLeft(0));
+        Check.refuses("24 closed", IllegalStateException.class, () -> room.pace(0));
+        Check.refuses("25 empty", NoSuchElementException.class, () -> room.customerAtWindow(1));
+        Check.refuses("25 closed", NoSuchElementException.class, () -> room.customerAtWindow(0));
+        Check.refuses("26 empty", NoSuchElementException.class, () -> room.serviceTimeLeft(1));
+        Check.refuses("26 closed", NoSuchElementException.class, () -> room.serviceTimeLeft(0));
         room.swap(0, 1);
         Rooms.call(room, 2);
         room.advance(1);
@@ -57,22 +57,22 @@ final class QueueTest {
         Check.same("26 service time later", room.serviceTimeLeft(1), 2);
         Check.same("23 opening time later", room.openingTimeLeft(1), 3);
         room.remove(1);
-        Rooms.refuses("25 removed", NoSuchElementException.class, room, () -> room.customerAtWindow(1));
-        Rooms.refuses("26 removed", NoSuchElementException.class, room, () -> room.serviceTimeLeft(1));
+        Check.refuses("25 removed", NoSuchElementException.class, () -> room.customerAtWindow(1));
+        Check.refuses("26 removed", NoSuchElementException.class, () -> room.serviceTimeLeft(1));
         room.advance(3);
-        Rooms.refuses("24 closed by time", IllegalStateException.class, room, () -> room.pace(1));
-        Rooms.refuses("25 closed by time", NoSuchElementException.class, room, () -> room.customerAtWindow(1));
-        Rooms.refuses("26 closed by time", NoSuchElementException.class, room, () -> room.serviceTimeLeft(1));
+        Check.refuses("24 closed by time", IllegalStateException.class, () -> room.pace(1));
+        Check.refuses("25 closed by time", NoSuchElementException.class, () -> room.customerAtWindow(1));
+        Check.refuses("26 closed by time", NoSuchElementException.class, () -> room.serviceTimeLeft(1));
     }
 
     private static void noSuchWindow() {
         WaitingRoomSimulation room = Rooms.crowd(5);
         Class<IndexOutOfBoundsException> due = IndexOutOfBoundsException.class;
         for (int window : NO_WINDOWS) {
-            Rooms.refuses("23 window " + window, due, room, () -> room.openingTimeLeft(window));
-            Rooms.refuses("24 window " + window, due, room, () -> room.pace(window));
-            Rooms.refuses("25 window " + window, due, room, () -> room.customerAtWindow(window));
-            Rooms.refuses("26 window " + window, due, room, () -> room.serviceTimeLeft(window));
+            Check.refuses("23 window " + window, due, () -> room.openingTimeLeft(window));
+            Check.refuses("24 window " + window, due, () -> room.pace(window));
+            Check.refuses("25 window " + window, due, () -> room.customerAtWindow(window));
+            Check.refuses("26 window " + window, due, () -> room.serviceTimeLeft(window));
         }
     }
 
@@ -89,9 +89,8 @@ final class QueueTest {
         }
         int[] refused = {-1, 6, Integer.MIN_VALUE, Integer.MAX_VALUE};
         for (int customer : refused) {
-            Rooms.refuses("27 customer " + customer, IndexOutOfBoundsException.class, room,
-                    () -> room.calledAhead(customer));
-            Rooms.refuses("28 customer " + customer, IndexOutOfBoundsException.class, room,
+            Check.refuses("27 customer " + customer, IndexOutOfBoundsException.class, () -> room.calledAhead(customer));
+            Check.refuses("28 customer " + customer, IndexOutOfBoundsException.class,
                     () -> room.calledAheadByPositions(customer));
         }
     }

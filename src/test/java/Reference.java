@@ -254,6 +254,19 @@ final class Reference {
         return (int) place.line.stream().limit(Math.max(position, 0)).filter(g -> g.called).count();
     }
 
+    int calledAheadByPositions(int customer) {
+        return calledAhead(customer);
+    }
+
+    int inversionsByBubbleSort() {
+        return inversions();
+    }
+
+    /** By the promise there is no way to make this false. */
+    boolean isConsistent() {
+        return true;
+    }
+
     int inversions() {
         int found = 0;
         for (Guest one : place.line) {

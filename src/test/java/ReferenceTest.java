@@ -200,7 +200,7 @@ final class ReferenceTest {
                 return new Pair("calledAhead " + c, () -> room.calledAhead(c), () -> due.calledAhead(c));
             case 11:
                 return new Pair("calledAheadByPositions " + c, () -> room.calledAheadByPositions(c),
-                        () -> due.calledAhead(c));
+                        () -> due.calledAheadByPositions(c));
             case 12:
                 return new Pair("customerBySighs " + c, () -> room.customerBySighs(c), () -> due.customerBySighs(c));
             case 13:
@@ -230,7 +230,8 @@ final class ReferenceTest {
             case 4:
                 return new Pair("inversions", () -> room.inversions(), () -> due.inversions());
             case 5:
-                return new Pair("inversionsByBubbleSort", () -> room.inversionsByBubbleSort(), () -> due.inversions());
+                return new Pair("inversionsByBubbleSort", () -> room.inversionsByBubbleSort(),
+                        () -> due.inversionsByBubbleSort());
             case 6:
                 return new Pair("queueLength", () -> room.queueLength(), () -> due.queueLength());
             default:
@@ -261,7 +262,7 @@ final class ReferenceTest {
             case 8:
                 return new Pair("calmShare", () -> room.calmShare(), () -> due.calmShare());
             case 9:
-                return new Pair("isConsistent", () -> room.isConsistent(), () -> true);
+                return new Pair("isConsistent", () -> room.isConsistent(), () -> due.isConsistent());
             case 10:
                 return new Pair("renderQueue", () -> room.renderQueue(), () -> due.renderQueue());
             case 11:
@@ -312,7 +313,7 @@ final class ReferenceTest {
     }
 
     private int customers() {
-        return room.customerCount();
+        return due.customerCount();
     }
 
     private String damaged(String script) {

@@ -82,12 +82,4 @@ final class Rooms {
         }
         return text.toString();
     }
-
-    /** A call that is refused must leave everything as it was. */
-    static void refuses(String what, Class<? extends RuntimeException> due, WaitingRoomSimulation room,
-            Check.Call call) {
-        String before = state(room);
-        Check.refuses(what, due, call);
-        Check.same(what + " changes nothing", state(room), before);
-    }
 }

@@ -94,7 +94,7 @@ final class ScriptTest {
             String script = wrong[i];
             WaitingRoomSimulation room = Rooms.crowd(5);
             Rooms.type(room, script);
-            Rooms.refuses("50 form of '" + script + "'", IllegalArgumentException.class, room, room::runScript);
+            Check.refuses("50 form of '" + script + "'", IllegalArgumentException.class, room::runScript);
             Check.same("51 position in '" + script + "'", room.errorPosition(), due[i]);
             Check.same("50 the buffer is empty after '" + script + "'", room.type('a'), 1);
             Check.same("50 '" + script + "' was no change", room.undo(), 4);
@@ -117,7 +117,7 @@ final class ScriptTest {
             WaitingRoomSimulation room = Rooms.crowd(3);
             Check.refuses("52 nothing failed yet", NoSuchElementException.class, room::failedCommand);
             Rooms.type(room, script);
-            Rooms.refuses("50 failing '" + script + "'", IllegalStateException.class, room, room::runScript);
+            Check.refuses("50 failing '" + script + "'", IllegalStateException.class, room::runScript);
             Check.same("52 command in '" + script + "'", room.failedCommand(), due[i]);
             Check.same("50 the buffer is empty after '" + script + "'", room.type('a'), 1);
             Check.refuses("51 the form was right", NoSuchElementException.class, room::errorPosition);
@@ -127,11 +127,11 @@ final class ScriptTest {
     private static void allOrNothing() {
         WaitingRoomSimulation room = Rooms.crowd(3);
         Rooms.type(room, "add 5;call;open 0 9 9;advance 3;remove 1;add 0");
-        Rooms.refuses("50 nothing takes effect", IllegalStateException.class, room, room::runScript);
+        Check.refuses("50 nothing takes effect", IllegalStateException.class, room::runScript);
         Check.same("52 the last one", room.failedCommand(), 5);
         Check.same("50 still three changes to undo", room.undo(), 2);
         Rooms.type(room, "add 5;add 0;");
-        Rooms.refuses("50 the form comes first", IllegalArgumentException.class, room, room::runScript);
+        Check.refuses("50 the form comes first", IllegalArgumentException.class, room::runScript);
         Check.same("51 its position", room.errorPosition(), 12);
         Check.same("52 stays as it was", room.failedCommand(), 5);
         Rooms.run(room, "add 5;add 6");

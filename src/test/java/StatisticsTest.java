@@ -43,10 +43,8 @@ final class StatisticsTest {
     }
 
     private static void refusesServed(WaitingRoomSimulation room, int recency) {
-        Rooms.refuses("34 recency " + recency, NoSuchElementException.class, room,
-                () -> room.servedTicket(recency));
-        Rooms.refuses("35 recency " + recency, NoSuchElementException.class, room,
-                () -> room.servedWaitingTime(recency));
+        Check.refuses("34 recency " + recency, NoSuchElementException.class, () -> room.servedTicket(recency));
+        Check.refuses("35 recency " + recency, NoSuchElementException.class, () -> room.servedWaitingTime(recency));
     }
 
     private static void customerBySighs() {
@@ -64,7 +62,7 @@ final class StatisticsTest {
         }
         int[] refused = {-1, 8, Integer.MIN_VALUE, Integer.MAX_VALUE};
         for (int rank : refused) {
-            Rooms.refuses("36 rank " + rank, NoSuchElementException.class, room, () -> room.customerBySighs(rank));
+            Check.refuses("36 rank " + rank, NoSuchElementException.class, () -> room.customerBySighs(rank));
         }
         Rooms.call(room, 1);
         room.openWindow(0, 9, 9);
@@ -95,8 +93,7 @@ final class StatisticsTest {
         }
         int[] refused = {-1, 7, Integer.MIN_VALUE, Integer.MAX_VALUE};
         for (int rank : refused) {
-            Rooms.refuses("37 rank " + rank, NoSuchElementException.class, room,
-                    () -> room.customerByWaitingTime(rank));
+            Check.refuses("37 rank " + rank, NoSuchElementException.class, () -> room.customerByWaitingTime(rank));
         }
         Rooms.call(room, 3);
         int[] called = {0, 1, 2, 3, 5, 6, 4};
@@ -133,7 +130,7 @@ final class StatisticsTest {
 
     private static void meanPatience() {
         WaitingRoomSimulation empty = new WaitingRoomSimulation();
-        Rooms.refuses("43 empty", ArithmeticException.class, empty, empty::meanPatience);
+        Check.refuses("43 empty", ArithmeticException.class, empty::meanPatience);
         Check.sameDouble("43 one", Rooms.with(7).meanPatience(), 7.0);
         Check.sameDouble("43 a fraction", Rooms.with(1, 2, 2).meanPatience(), 5.0 / 3.0);
         Check.sameDouble("43 eleven", Rooms.with(30, 30, 30, 30, 30, 30, 30, 30, 30, 30, 29).meanPatience(),
@@ -146,12 +143,12 @@ final class StatisticsTest {
         room.remove(0);
         Check.sameDouble("43 zero", room.meanPatience(), 0.0);
         room.remove(0);
-        Rooms.refuses("43 empty again", ArithmeticException.class, room, room::meanPatience);
+        Check.refuses("43 empty again", ArithmeticException.class, room::meanPatience);
     }
 
     private static void calmShare() {
         WaitingRoomSimulation room = Rooms.with(30, 1, 30, 1);
-        Rooms.refuses("44 nobody served", ArithmeticException.class, room, room::calmShare);
+        Check.refuses("44 nobody served", ArithmeticException.class, room::calmShare);
         room.sit(3);
         Rooms.call(room, 4);
         room.openWindow(0, 99, 1);

@@ -41,7 +41,7 @@ final class UndoTest {
 
     private static void depth() {
         WaitingRoomSimulation room = new WaitingRoomSimulation();
-        Rooms.refuses("53 nothing to undo", NoSuchElementException.class, room, room::undo);
+        Check.refuses("53 nothing to undo", NoSuchElementException.class, room::undo);
         String[] states = new String[10];
         for (int i = 0; i < 10; i++) {
             states[i] = Rooms.state(room);
@@ -51,7 +51,7 @@ final class UndoTest {
             Check.same("53 still to undo", room.undo(), 7 - i);
             Check.same("53 back to " + (9 - i), Rooms.state(room), states[9 - i]);
         }
-        Rooms.refuses("53 only eight", NoSuchElementException.class, room, room::undo);
+        Check.refuses("53 only eight", NoSuchElementException.class, room::undo);
         Check.same("53 two customers stay", room.customerCount(), 2);
     }
 
@@ -63,7 +63,7 @@ final class UndoTest {
         Check.same("53 a number of an undone ticket", room.ticket(1), 2);
         Check.same("53 new changes on old ones", room.undo(), 1);
         Check.same("53 then the old ones", room.undo(), 0);
-        Rooms.refuses("53 nothing is left", NoSuchElementException.class, room, room::undo);
+        Check.refuses("53 nothing is left", NoSuchElementException.class, room::undo);
         for (int i = 0; i < 9; i++) {
             room.addCustomer(9);
         }
@@ -106,7 +106,7 @@ final class UndoTest {
 
     private static void snapshot() {
         WaitingRoomSimulation room = Rooms.call(Rooms.with(9, 30, 2, 8), 1);
-        Rooms.refuses("55 no snapshot", IllegalStateException.class, room, room::restore);
+        Check.refuses("55 no snapshot", IllegalStateException.class, room::restore);
         room.openWindow(1, 30, 2);
         room.sit(2);
         room.advance(3);
@@ -117,7 +117,7 @@ final class UndoTest {
         room.addCustomer(4);
         Check.same("55 customers", room.restore(), 3);
         Check.same("55 everything is back", Rooms.state(room), saved);
-        Rooms.refuses("55 nothing to undo", NoSuchElementException.class, room, room::undo);
+        Check.refuses("55 nothing to undo", NoSuchElementException.class, room::undo);
         room.remove(0);
         room.remove(0);
         Check.same("55 the snapshot is kept", room.restore(), 3);
