@@ -148,6 +148,24 @@ final class StatisticsEdgesTest {
             customer 1 -> ticket 2 patience 0 sighs 1 ache 0 waited 2 position 1
             customerBySighs 0 -> 0
             customerBySighs 1 -> 1
+            # 36: more sighs come before less patience and before a lower index
+            addCustomer 2
+            addCustomer 1
+            advance 2
+            sighs 0 -> 1
+            sighs 1 -> 2
+            customerBySighs 0 -> 1
+            customerBySighs 1 -> 0
+            # 36: a sigh comes before a patience of 0 without one
+            addCustomer 2
+            addCustomer 1
+            sit 0
+            advance 1
+            swap 0 1 -> 1
+            customer 0 -> ticket 1 patience 0 sighs 0 ache 1 waited 1 position 1 sits
+            customer 1 -> ticket 2 patience 0 sighs 1 ache 0 waited 1 position 0
+            customerBySighs 0 -> 1
+            customerBySighs 1 -> 0
             # 36: then by patience in ascending order
             addCustomer 9
             addCustomer 8

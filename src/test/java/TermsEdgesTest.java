@@ -230,6 +230,17 @@ final class TermsEdgesTest {
             remove 11 -> 11
             addCustomer 7 -> 11
             customer 11 -> ticket 13 patience 7 sighs 0 ache 0 waited 0 position 11
+            # customers: also where the one before had sighed and walked out, or was removed
+            addCustomer 1
+            advance 3
+            addCustomer 9 -> 0
+            customer 0 -> ticket 2 patience 9 sighs 0 ache 0 waited 0 position 0
+            remove 0
+            addCustomer 1
+            advance 2
+            remove 0
+            addCustomer 9 -> 0
+            customer 0 -> ticket 4 patience 9 sighs 0 ache 0 waited 0 position 0
             # customers: a patience of 0 to 30
             addCustomer 30
             patience 0 -> 30

@@ -59,6 +59,48 @@ final class UndoEdgesTest {
             7 * undo -> 0
             minute -> 92
             undo -> throws.NoSuchElementException
+            # 53: of ten changes, one by one
+            10 * addCustomer 5
+            undo -> 7
+            queue -> 1 2 3 4 5 6 7 8 9
+            undo -> 6
+            queue -> 1 2 3 4 5 6 7 8
+            undo -> 5
+            queue -> 1 2 3 4 5 6 7
+            undo -> 4
+            queue -> 1 2 3 4 5 6
+            undo -> 3
+            queue -> 1 2 3 4 5
+            undo -> 2
+            queue -> 1 2 3 4
+            undo -> 1
+            queue -> 1 2 3
+            undo -> 0
+            queue -> 1 2
+            # 53: of ten changes, with a prediction and refused calls behind them
+            10 * addCustomer 5
+            sighsWithin 60 -> 30
+            addCustomer 31 -> throws.IllegalArgumentException
+            advance 21 -> throws.IllegalArgumentException
+            8 * undo -> 0
+            queue -> 1 2
+            # 53: of eight changes after ten, one by one
+            10 * advance 1
+            8 * addCustomer 5
+            undo -> 7
+            queue -> 1 2 3 4 5 6 7
+            undo -> 6
+            queue -> 1 2 3 4 5 6
+            undo -> 5
+            undo -> 4
+            queue -> 1 2 3 4
+            undo -> 3
+            undo -> 2
+            queue -> 1 2
+            undo -> 1
+            undo -> 0
+            queue ->
+            minute -> 10
             # 53: the latest one first
             addCustomer 5
             callNext
@@ -84,6 +126,21 @@ final class UndoEdgesTest {
             undo -> 0
             customerCount -> 0
             undo -> throws.NoSuchElementException
+            # 53: the latest change that has not been undone, behind two new changes
+            addCustomer 5
+            addCustomer 6
+            undo -> 1
+            addCustomer 7
+            addCustomer 8
+            sighsWithin 60 -> 9
+            undo -> 2
+            queue -> 1 2
+            patience 1 -> 7
+            undo -> 1
+            queue -> 1
+            patience 0 -> 5
+            undo -> 0
+            queue ->
             # 53: an undo itself cannot be undone
             addCustomer 5
             undo -> 0

@@ -1,4 +1,5 @@
 import java.util.NoSuchElementException;
+import java.util.function.Consumer;
 
 /** Promises 53 to 55: undo and the snapshot. */
 final class UndoTest {
@@ -16,24 +17,24 @@ final class UndoTest {
     }
 
     private static void everyChange() {
-        WaitingRoomSimulation room = Rooms.call(Rooms.crowd(5), 2);
-        room.openWindow(2, 9, 3);
-        undoes("addCustomer", room, () -> room.addCustomer(5));
-        undoes("openWindow", room, () -> room.openWindow(0, 5, 5));
-        undoes("closeWindow", room, () -> room.closeWindow(2));
-        undoes("callNext", room, room::callNext);
-        undoes("swap", room, () -> room.swap(0, 4));
-        undoes("sit", room, () -> room.sit(3));
-        room.sit(3);
-        undoes("standUp", room, () -> room.standUp(3));
-        undoes("remove", room, () -> room.remove(1));
-        undoes("advance", room, () -> room.advance(7));
-        undoes("runScript", room, () -> Rooms.run(room, "add 5;advance 9;remove 0"));
+        undoes("addCustomer", room -> room.addCustomer(5));
+        undoes("openWindow", room -> room.openWindow(0, 5, 5));
+        undoes("closeWindow", room -> room.closeWindow(2));
+        undoes("callNext", room -> room.callNext());
+        undoes("swap", room -> room.swap(0, 4));
+        undoes("sit", room -> room.sit(3));
+        undoes("standUp", room -> room.standUp(1));
+        undoes("remove", room -> room.remove(1));
+        undoes("advance", room -> room.advance(7));
+        undoes("runScript", room -> Rooms.run(room, "add 5;advance 9;remove 0"));
     }
 
-    private static void undoes(String what, WaitingRoomSimulation room, Check.Call change) {
+    private static void undoes(String what, Consumer<WaitingRoomSimulation> change) {
+        WaitingRoomSimulation room = Rooms.call(Rooms.crowd(5), 2);
+        room.openWindow(2, 9, 3);
+        room.sit(1);
         String before = Rooms.state(room);
-        change.run();
+        change.accept(room);
         Check.same("53 " + what + " changes something", Rooms.state(room).equals(before), false);
         room.undo();
         Check.same("53 " + what, Rooms.state(room), before);
@@ -44,12 +45,12 @@ final class UndoTest {
         Check.refuses("53 nothing to undo", NoSuchElementException.class, room::undo);
         String[] states = new String[10];
         for (int i = 0; i < 10; i++) {
-            states[i] = Rooms.state(room);
+            states[i] = Rooms.queue(room);
             room.addCustomer(5 + i);
         }
         for (int i = 0; i < 8; i++) {
             Check.same("53 still to undo", room.undo(), 7 - i);
-            Check.same("53 back to " + (9 - i), Rooms.state(room), states[9 - i]);
+            Check.same("53 back to " + (9 - i), Rooms.queue(room), states[9 - i]);
         }
         Check.refuses("53 only eight", NoSuchElementException.class, room::undo);
         Check.same("53 two customers stay", room.customerCount(), 2);
