@@ -15,12 +15,15 @@ public final class AllTests {
         UndoTest.run();
         FaceTest.run();
         LanguageTest.run();
+        ReadmeTest.run();
         TermsEdgesTest.run();
         ChangesEdgesTest.run();
         AnswersEdgesTest.run();
         StatisticsEdgesTest.run();
         ScriptEdgesTest.run();
         UndoEdgesTest.run();
+        SentencesTest.run();
+        FormsTest.run();
         ScenesTest.run();
         ReferenceTest.run();
         System.exit(Check.finish());

@@ -139,23 +139,35 @@ final class ScenesTest {
         "script advance 20", "script advance 21", "script advance ", "script open 1 5 5;advance;close 1"};
 
     private final String what;
-    private final List<String> scene = new ArrayList<>();
+    private final List<String> scene;
     private final Map<Look, String> looks;
 
-    private ScenesTest(String what, String text) {
+    private ScenesTest(String what, List<String> scene) {
         this.what = what;
-        for (String line : text.split("\n")) {
-            if (!line.isEmpty()) {
-                scene.addAll(Runs.expand(line));
-            }
-        }
+        this.scene = scene;
         looks = Runs.looks(scene);
     }
 
     static void run() {
-        for (int i = 0; i < SCENES.length; i++) {
-            new ScenesTest("scene " + i + ", ", SCENES[i]).check();
+        List<List<String>> scenes = scenes();
+        for (int i = 0; i < scenes.size(); i++) {
+            new ScenesTest("scene " + i + ", ", scenes.get(i)).check();
         }
+    }
+
+    /** The calls that lead to each of the halls. */
+    static List<List<String>> scenes() {
+        List<List<String>> scenes = new ArrayList<>();
+        for (String text : SCENES) {
+            List<String> scene = new ArrayList<>();
+            for (String line : text.split("\n")) {
+                if (!line.isEmpty()) {
+                    scene.addAll(Runs.expand(line));
+                }
+            }
+            scenes.add(scene);
+        }
+        return scenes;
     }
 
     private void check() {
